@@ -102,7 +102,7 @@ public final class KnitGrader {
     private static final int LOT_BITS = 4;
     private static final int LOT_MASK = (1 << LOT_BITS) - 1;
     private static final int COUNT_SHIFT = LOT_BITS * MOST_PIECES;
-    private static final int NO_DEALING = Integer.MAX_VALUE;
+    private static final int NO_DEALING = 0x7fffffff;
 
     private final Text text;
     private final Reader reader;
@@ -923,6 +923,7 @@ public final class KnitGrader {
         private final int[] tokenEnds;
         private final long[] tokenValues;
         private int token;
+        private int position;
         private int kind;
         private int faultCode;
         private int faultPosition;
@@ -936,6 +937,7 @@ public final class KnitGrader {
             tokenEnds = new int[MOST_BYTES + 1];
             tokenValues = new long[MOST_BYTES + 1];
             token = 0;
+            position = 0;
             kind = NO_TOKEN;
             faultCode = 0;
             faultPosition = NONE;
@@ -948,8 +950,8 @@ public final class KnitGrader {
             splitTokens();
             faultCode = 0;
             faultPosition = NONE;
-            token = 0;
-            kind = Cells.at(tokenKinds, 0);
+            token = -1;
+            pass();
             readGauge();
             readSizes();
             for (int i = 0; i <= MOST_MEASURES && kind == WORD_MEASURE; i++) {
@@ -1072,7 +1074,7 @@ public final class KnitGrader {
         private void failIf(boolean wrong, int code) {
             if (wrong && faultCode == 0) {
                 faultCode = code;
-                faultPosition = Cells.at(tokenStarts, token);
+                faultPosition = position;
                 kind = NO_TOKEN;
             }
         }
@@ -1080,6 +1082,7 @@ public final class KnitGrader {
         private void pass() {
             if (faultCode == 0) {
                 token++;
+                position = Cells.at(tokenStarts, token);
                 kind = Cells.at(tokenKinds, token);
             }
         }
@@ -1169,7 +1172,7 @@ public final class KnitGrader {
             failIf(row >= MOST_CHART_ROWS, NO_ROOM);
             int takes = takenHere();
             // Each letter makes one stitch.
-            int makes = Cells.at(tokenEnds, token) - Cells.at(tokenStarts, token);
+            int makes = Cells.at(tokenEnds, token) - position;
             failIf(row > 0 && takes != pattern.made(chart, row - 1), WRONG_STITCHES);
             if (faultCode == 0) {
                 pattern.addChartRow(chart, takes, makes);
@@ -1178,12 +1181,11 @@ public final class KnitGrader {
         }
 
         private boolean isChartRowHere() {
-            int start = Cells.at(tokenStarts, token);
             int end = Cells.at(tokenEnds, token);
-            if (kind < WORD_FREE || end - start > CHART_LETTERS) {
+            if (kind < WORD_FREE || end - position > CHART_LETTERS) {
                 return false;
             }
-            for (int i = start; i < end; i++) {
+            for (int i = position; i < end; i++) {
                 if (takenBy(text.byteAt(i)) == NONE) {
                     return false;
                 }
@@ -1194,7 +1196,7 @@ public final class KnitGrader {
         private int takenHere() {
             int end = Cells.at(tokenEnds, token);
             int sum = 0;
-            for (int i = Cells.at(tokenStarts, token); i < end; i++) {
+            for (int i = position; i < end; i++) {
                 sum += takenBy(text.byteAt(i));
             }
             return sum;

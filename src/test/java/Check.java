@@ -21,6 +21,14 @@ final class Check {
         }
     }
 
+    /** A call without an answer. */
+    static Call done(Runnable call) {
+        return () -> {
+            call.run();
+            return "done";
+        };
+    }
+
     static void due(String what, Call call, Object want) {
         same(what, told(call), String.valueOf(want));
     }
