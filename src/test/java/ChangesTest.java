@@ -22,6 +22,7 @@ public final class ChangesTest {
         restore();
         differences();
         differencesBesidesStitches();
+        differenceOfOneRow();
         Check.end("ChangesTest");
     }
 
@@ -81,7 +82,7 @@ public final class ChangesTest {
         Check.due("the value before it", () -> g.value(0, 2), 1000);
         Check.due("up to 3000", () -> g.grade(0, 0, 1000), 3000);
         Check.due("all the same", () -> g.grade(0, 7, 0), 7);
-        int[][] wrong = {{3000, -1001}, {0, 1001}, {-1, 1}, {-1, 100}, {3001, 0}, {3001, -10}, {0, -1}, {3000, 1}, {0, Integer.MAX_VALUE},
+        int[][] wrong = {{3000, -1001}, {0, 1001}, {-1, 1}, {-1, 100}, {3001, 0}, {3001, -10}, {0, -1}, {2, -1}, {2998, 1}, {3000, 1}, {0, Integer.MAX_VALUE},
             {0, Integer.MIN_VALUE}, {3000, 1 << 30}, {0, 1 << 31}, {0, 1431655765}, {0, 1431655766}, {Integer.MIN_VALUE, 1}, {Integer.MAX_VALUE, -1},
             {Integer.MAX_VALUE, Integer.MAX_VALUE}};
         for (int[] one : wrong) {
@@ -333,5 +334,23 @@ public final class ChangesTest {
         fails.save(1);
         Check.due("q fails with a later part", () -> fails.failure(0, 1), 22);
         Check.due("and all have other stitches", () -> fails.differences(0), 2);
+    }
+
+    /** A shape with one shaping row, its last one, that moves by a row; rows are added to it as they are taken from the work behind it. */
+    private static void differenceOfOneRow() {
+        KnitGrader g = Check.loaded("gauge 20 30 yarn 10;sizes s;measure a 100;measure b 33;measure c 17;"
+            + "piece p;cast a color 0;shape a plus 5 over b per 1 color 0;work c color 0;end;");
+        int[][] lengths = {{33, 17}, {37, 13}, {40, 10}};
+        for (int i = 0; i < 3; i++) {
+            int shaped = 10 + i;
+            g.setValue(1, 0, lengths[i][0]);
+            g.setValue(2, 0, lengths[i][1]);
+            Check.due("one row: rows", () -> g.rows(0, 0), 16);
+            Check.due("one row: shaping", () -> g.shaping(0, 0, 1, 0), shaped);
+            if (i > 0) {
+                Check.due("one row: differences with shaping row " + shaped, () -> g.differences(0), 1);
+            }
+            g.save(0);
+        }
     }
 }

@@ -95,6 +95,9 @@ public final class YarnTest {
         exact.setEase(0, 0, 3);
         Check.due("a stitch more", () -> exact.need(0, 0, 1), 1010);
         Check.missing("a stitch more", () -> exact.dealt(0, 0, 1));
+        KnitGrader millimeter = Check.loaded("gauge 20 30 yarn 11;sizes s;measure m 455;piece p;cast m color 1;end;lot 1 1;");
+        Check.due("a millimeter more", () -> millimeter.need(0, 0, 1), 1001);
+        Check.missing("a millimeter more", () -> millimeter.dealt(0, 0, 1));
         KnitGrader both = rowsOf(new int[] {2, 3}, lots(5));
         dealing(both, "two pieces from just enough", 0, 0);
         both.setEase(0, 0, 3);
