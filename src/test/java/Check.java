@@ -6,8 +6,24 @@ final class Check {
         Object answer();
     }
 
+    interface CallOf {
+        Object answerOf(KnitGrader grader);
+    }
+
+    interface Start {
+        KnitGrader grader();
+    }
+
+    static final String RANGE = "throws." + IndexOutOfBoundsException.class.getSimpleName();
+    static final String ARGUMENT = "throws." + IllegalArgumentException.class.getSimpleName();
+    static final String STATE = "throws." + IllegalStateException.class.getSimpleName();
+    static final String MISSING = "throws." + NoSuchElementException.class.getSimpleName();
+
     private static int wrong = 0;
     private static int looked = 0;
+    private static String sentence = "";
+    private static int sentences = 0;
+    private static int lookedBefore = 0;
 
     private Check() {
     }
@@ -34,31 +50,48 @@ final class Check {
     }
 
     static void range(String what, Call call) {
-        due(what, call, "throws." + IndexOutOfBoundsException.class.getSimpleName());
+        due(what, call, RANGE);
     }
 
     static void argument(String what, Call call) {
-        due(what, call, "throws." + IllegalArgumentException.class.getSimpleName());
+        due(what, call, ARGUMENT);
     }
 
     static void state(String what, Call call) {
-        due(what, call, "throws." + IllegalStateException.class.getSimpleName());
+        due(what, call, STATE);
     }
 
     static void missing(String what, Call call) {
-        due(what, call, "throws." + NoSuchElementException.class.getSimpleName());
+        due(what, call, MISSING);
     }
 
     static void same(String what, String got, String want) {
         looked++;
         if (!got.equals(want)) {
             wrong++;
-            System.out.println(what + " answered " + got + ", due is " + want);
+            System.out.println(sentence + what + " answered " + got + ", due is " + want);
+        }
+    }
+
+    /** Names the sentence of the document that the checks behind this call are for; each needs one at least. */
+    static void sentence(String words) {
+        endSentence();
+        sentence = "\"" + words + "\": ";
+        sentences++;
+        lookedBefore = looked;
+    }
+
+    private static void endSentence() {
+        if (sentences > 0 && looked == lookedBefore) {
+            wrong++;
+            System.out.println(sentence + "nothing looked at");
         }
     }
 
     static void end(String name) {
-        System.out.println(name + ": " + looked + " answers looked at, " + wrong + " wrong");
+        endSentence();
+        String told = sentences > 0 ? sentences + " sentences, " : "";
+        System.out.println(name + ": " + told + looked + " answers looked at, " + wrong + " wrong");
         if (wrong != 0) {
             System.exit(1);
         }
@@ -66,6 +99,13 @@ final class Check {
 
     static int wrongs() {
         return wrong;
+    }
+
+    /** The same refused call on a grader that is made anew: it throws, and changes nothing that can be seen. */
+    static void refused(String what, String exception, Start start, CallOf call) {
+        KnitGrader asked = start.grader();
+        due(what, () -> call.answerOf(asked), exception);
+        same("what is seen behind " + what, Picture.of(asked), Picture.of(start.grader()));
     }
 
     private static int four(String text, int at) {
@@ -96,6 +136,16 @@ final class Check {
             return "loaded";
         }, "loaded");
         return grader;
+    }
+
+    static void loads(String text) {
+        loaded(text);
+    }
+
+    /** A text with an error; a caret stands in it before the token that has the error. */
+    static void faultAt(int code, String marked) {
+        int at = marked.indexOf('^');
+        fault(marked.substring(0, at) + marked.substring(at + 1), code, at);
     }
 
     /** Loads a text that has an error, and looks at the code and the position. */

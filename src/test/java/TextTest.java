@@ -28,10 +28,8 @@ public final class TextTest {
         Check.end("TextTest");
     }
 
-    /** A caret stands in the text before the token with the error. */
     private static void fault(int code, String marked) {
-        int at = marked.indexOf('^');
-        Check.fault(marked.substring(0, at) + marked.substring(at + 1), code, at);
+        Check.faultAt(code, marked);
     }
 
     private static void newObject() {
