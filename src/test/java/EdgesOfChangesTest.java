@@ -55,6 +55,8 @@ public final class EdgesOfChangesTest {
         equalStates();
         otherRows();
         otherStitches();
+        oneOtherRow();
+        otherRowsOfAPart();
         otherFailures();
         pairsOfSizesAndPieces();
         yarnIsNoDifference();
@@ -872,6 +874,72 @@ public final class EdgesOfChangesTest {
         moved.setValue(1, 0, 60);
         moved.setValue(2, 0, 40);
         Check.due("other borders of parts with the same stitches", () -> moved.differences(0), 0);
+    }
+
+    /** Two states with as many rows, of which but one has other stitches; compared both ways. */
+    private static void oneRow(KnitGrader g, String what, int[] one, int[] other) {
+        for (int i = 0; i < one.length; i++) {
+            g.setValue(i, 0, one[i]);
+        }
+        g.save(0);
+        int rows = g.rows(0, 0);
+        int[] behind = new int[rows];
+        for (int row = 0; row < rows; row++) {
+            behind[row] = g.stitches(0, 0, row);
+        }
+        for (int i = 0; i < other.length; i++) {
+            g.setValue(i, 0, other[i]);
+        }
+        Check.due(what + ": rows", () -> g.rows(0, 0), rows);
+        Check.due(what + ": failure", () -> g.failure(0, 0), 0);
+        int others = 0;
+        for (int row = 0; row < rows; row++) {
+            others += g.stitches(0, 0, row) != behind[row] ? 1 : 0;
+        }
+        Check.same(what + ": rows with other stitches", String.valueOf(others), "1");
+        Check.due(what, () -> g.differences(0), 1);
+        g.save(1);
+        g.restore(0);
+        Check.due(what + ", the other way round", () -> g.differences(1), 1);
+    }
+
+    private static void oneOtherRow() {
+        Check.sentence("another number of stitches behind some row (one alone)");
+        String shape = "gauge 10 10 yarn 1;sizes s;measure a 200;measure b 210;measure l 10;measure m 10;";
+        for (int rows = 1; rows <= 9; rows++) {
+            KnitGrader last = Check.loaded(shape + "piece p;cast a color 0;shape b over l per 1 color 0;work m color 0;end;");
+            oneRow(last, "a shaping row that moves from row " + rows, new int[] {200, 210, 10 * rows, 110 - 10 * rows}, new int[] {200, 210, 10 * rows + 10, 100 - 10 * rows});
+            KnitGrader first = Check.loaded(shape + "measure o 10;piece p;cast a color 0;work l color 0;shape b over o per 1 color 0;work m color 0;end;");
+            oneRow(first, "a shape that moves from row " + rows, new int[] {200, 210, 10 * rows, 110 - 10 * rows}, new int[] {200, 210, 10 * rows + 10, 100 - 10 * rows});
+        }
+        String[] charts = {"yk t k k k k k k", "k yk t k k k k k", "k k yk t k k k k", "k k k yk t k k k", "k k k k yk t k k", "k k k k k yk t k", "k k k k k k yk t"};
+        for (String rows : charts) {
+            KnitGrader plain = Check.loaded(shape + "chart x " + rows + ";piece p;cast a color 0;work l color 0 chart x;work m color 0;end;");
+            oneRow(plain, "a chart for plain rows: " + rows, new int[] {200, 210, 80, 0}, new int[] {200, 210, 0, 80});
+            KnitGrader charted = Check.loaded(shape + "chart x k k k k k k k k;chart y " + rows + ";piece p;cast a color 0;work l color 0 chart x;work m color 0 chart y;end;");
+            oneRow(charted, "a chart for another one: " + rows, new int[] {200, 210, 80, 0}, new int[] {200, 210, 0, 80});
+        }
+        KnitGrader longer = Check.loaded(shape + "piece p;cast a color 0;work l color 0;shape b over m per 1 color 0;end;");
+        oneRow(longer, "a shape that starts a row earlier", new int[] {200, 220, 20, 80}, new int[] {200, 220, 10, 90});
+        KnitGrader ahead = Check.loaded(shape + "piece p;cast a color 0;shape b over l per 1 color 0;work m color 0;end;");
+        oneRow(ahead, "a cast alone", new int[] {200, 210, 10, 10}, new int[] {210, 210, 10, 10});
+    }
+
+    private static void otherRowsOfAPart() {
+        Check.sentence("another number of stitches behind some row (within a part)");
+        KnitGrader g = saved("measure a 200;measure b 210;measure l 100;measure m 20;", "piece p;cast a color 0;shape b over l per 1 color 0;shape a over m per 1 color 0;end;");
+        g.setValue(1, 0, 220);
+        Check.due("one shaping row more", () -> g.shaping(0, 0, 1, 0) * 100 + g.shaping(0, 0, 1, 1), 510);
+        Check.due("the same first rows", () -> g.stitches(0, 0, 4), 20);
+        Check.due("the same last row", () -> g.stitches(0, 0, 12), 20);
+        Check.due("other rows between", () -> g.differences(0), 1);
+        KnitGrader parts = saved("measure a 200;measure b 240;measure c 240;measure l 100;measure m 0;",
+            "piece p;cast a color 0;shape b over l per 1 color 0;shape c over m per 2 color 0;end;");
+        parts.setValue(1, 0, 200);
+        parts.setValue(3, 0, 0);
+        parts.setValue(4, 0, 100);
+        Check.due("shaped by another part", () -> parts.shaping(0, 0, 2, 1), 10);
+        Check.due("in other steps", () -> parts.differences(0), 1);
     }
 
     private static void otherFailures() {

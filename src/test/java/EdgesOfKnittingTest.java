@@ -43,6 +43,7 @@ public final class EdgesOfKnittingTest {
         rowsOutside();
         partAt();
         extremes();
+        pieceAfterPiece();
         shaping();
         shapingOfAFailure();
         shapingMissing();
@@ -523,7 +524,31 @@ public final class EdgesOfKnittingTest {
         extreme(knitted(measures, "cast a color 0;work z color 0 chart two;"), "this chart in no rows", 6, 6);
         extreme(Check.loaded(TEN + measures + "chart n sss kyykyykyy;piece p;cast a by 9 color 0;work l color 0 chart n;end;"), "a chart that narrows", 3, 9);
         extreme(Check.loaded(TEN + measures + "chart n sss kyykyykyy;piece p;cast a by 9 color 0;work z color 0 chart n;end;"), "that chart in no rows", 9, 9);
+        for (String rows : new String[] {"sss kkk kyykyykyy", "kkkkkkkkk sss kyykyykyy", "kkkkkkkkk kkkkkkkkk sss kyykyykyy"}) {
+            extreme(Check.loaded(TEN + measures + "chart n " + rows + ";chart o s kyy;piece p;cast a by 9 color 0;work l color 0 chart n;end;"), "a chart of " + rows, 3, 9);
+        }
         extreme(knitted(measures, "cast a color 0;work l color 0;shape b over z per 1 color 0;"), "a failure", 6, 6);
+    }
+
+    /** Longer pieces before shorter ones, in turn. */
+    private static void pieceAfterPiece() {
+        Check.sentence("what is told of a piece does not hang on the piece that was told of before it");
+        KnitGrader g = Check.loaded(TEN + "measure a 60;measure b 90;measure l 30;measure z 0;" + CHARTS + "piece p;cast b color 0;work l color 0;shape a over l per 1 color 0;shape b plus 90 over b per 2 color 0;end;"
+            + "piece q;cast a color 0;work l color 0;shape b over z per 1 color 0;work l color 0;end;piece r;cast a color 0;end;piece t;cast b minus 60 color 1;work l color 0 chart wide;end;");
+        int[] rows = {16, 4, 1, 4};
+        int[] least = {6, 6, 6, 3};
+        int[] greatest = {18, 6, 6, 3};
+        int[] sums = {9 + 27 + 8 + 7 + 6 + 8 + 8 + 10 + 12 + 12 + 14 + 16 + 16 + 18, 24, 6, 12};
+        int[] order = {0, 1, 0, 2, 0, 3, 1, 2, 1, 3, 2, 3, 0, 0};
+        for (int piece : order) {
+            Check.due("rows of " + piece, () -> g.rows(0, piece), rows[piece]);
+            Check.due("last part of " + piece, () -> g.partAt(0, piece, rows[piece] - 1), new int[] {3, 1, 0, 1}[piece]);
+            Check.due("failure of " + piece, () -> g.failure(0, piece), piece == 1 ? 22 : 0);
+            Check.due("least of " + piece, () -> g.extreme(0, piece, false), least[piece]);
+            Check.due("greatest of " + piece, () -> g.extreme(0, piece, true), greatest[piece]);
+            Check.due("mean of " + piece, () -> g.mean(0, piece), (double) sums[piece] / rows[piece]);
+            Check.due("need of " + piece, () -> g.need(0, piece, 0), sums[piece] - (piece == 3 ? 3 : 0));
+        }
     }
 
     private static void shaping() {
@@ -590,6 +615,9 @@ public final class EdgesOfKnittingTest {
         Check.due("a chart", () -> knitted("measure a 70;measure l 80;", "cast a color 0;work l color 0 chart eight;").mean(0, 0), (7 + 7 + 14 * 3 + 7 * 4) / 9.0);
         Check.due("parts of all kinds", () -> knitted("measure a 60;measure b 80;measure l 30;", "cast a color 0;work l color 1;shape b over l per 1 color 2;work l color 3 chart wide;work l color 0;").mean(0, 0),
             (6 * 4 + 7 + 7 + 8) / 7.0);
+        Check.due("a chart of one row", () -> knitted("measure a 70;measure l 80;", "cast a color 0;work l color 0 chart one;").mean(0, 0), 7.0);
+        Check.due("a chart of 8 rows before another one", () -> Check.loaded(TEN + "measure a 70;measure l 160;" + CHARTS.replace("chart one k;", "") + "chart last kkkkkk;piece p;cast a color 0;work l color 0 chart eight;end;").mean(0, 0),
+            (7 + 14 * 3 * 2 + 7 * 10) / 17.0);
         KnitGrader third = knitted("measure a 10;measure l 40;", "cast a color 0;work l color 0 chart two;");
         Check.due("no float", () -> third.mean(0, 0), (1 + 3 + 1 + 3 + 1) / 5.0);
         Check.due("a third", () -> knitted("measure a 10;measure l 20;", "cast a color 0;work l color 0 chart two;").mean(0, 0), 5 / 3.0);

@@ -70,11 +70,13 @@ public final class EdgesOfTextTest {
         truncateOutside();
         loadForgets();
         bufferIsEmptyAfterLoad();
+        loadAfterAnother();
         loadCountsPieces();
         errorStaysOut();
         errorOfLatestLoad();
         finds();
         findsByteByByte();
+        findsByEachLetter();
         findEmptiesTheBuffer();
         findOutside();
         findsNothing();
@@ -915,6 +917,56 @@ public final class EdgesOfTextTest {
         }
     }
 
+    /** Nothing of an earlier text is left, nor of one with an error that was read in part. */
+    private static void loadAfterAnother() {
+        Check.sentence("Loads the text (and nothing of another one)");
+        String[] texts = {"gauge 20 30 yarn 10;sizes a;", FIRST,
+            "gauge 10 10 yarn 1;sizes a;measure x 100;piece p;cast x color 1;work x color 2;end;piece q;cast x color 0;work x color 3;end;piece r;cast x color 1;work x color 2;end;lot 1 9;",
+            "gauge 10 10 yarn 1;sizes a b;measure hip 100 120;measure long 40 40;chart x kkk;piece p;cast hip color 1;work long color 2;end;piece q;cast long color 0;work hip color 3;end;lot 0 1;",
+            "gauge 10 10 yarn 9;sizes a b c;measure hip 90 93 95;measure long 50 60 70;measure m 1 2 3;chart x k yk kk kk t k p k;chart y kyt;chart z kyy s;"
+                + "piece p;cast hip plus 3 by 3 and 2 color 1;shape long minus 4 by 2 over hip per 4 color 2;work long color 3 chart z;end;"
+                + "piece q;cast long plus 7 color 0;shape hip over long per 2 color 1;end;piece r;cast hip by 9 color 0;work m color 1 chart y;end;lot 1 3;lot 2 4;lot 3 5;"};
+        for (String first : texts) {
+            for (String second : texts) {
+                KnitGrader g = Check.loaded(first);
+                Check.write(g, second);
+                Check.due("load", () -> g.load() >= 0, true);
+                Check.same("what is seen of " + second + " behind " + first, Picture.of(g), Picture.of(Check.loaded(second)));
+                KnitGrader spoilt = new KnitGrader();
+                Check.write(spoilt, first + "?");
+                Check.argument("an error", spoilt::load);
+                Check.write(spoilt, second);
+                Check.due("load", () -> spoilt.load() >= 0, true);
+                Check.same("what is seen of " + second + " behind an error in " + first, Picture.of(spoilt), Picture.of(Check.loaded(second)));
+            }
+        }
+        KnitGrader names = Check.loaded("gauge 20 30 yarn 10;sizes a b;measure b 1 2;measure c 1 2;chart c k;chart d k;piece d;cast b color 0;end;piece e;cast b color 0;end;");
+        Check.write(names, "gauge 20 30 yarn 10;sizes a;measure b 1;chart c k;piece d;cast b color 0;end;");
+        Check.due("load", names::load, 1);
+        for (int kind = 0; kind < 4; kind++) {
+            int what = kind;
+            Check.write(names, String.valueOf(letter(kind + 1)));
+            Check.missing("a name that was there", () -> names.find(what));
+            Check.write(names, String.valueOf(letter(kind)));
+            Check.due("a name that is there", () -> names.find(what), 0);
+        }
+        KnitGrader fails = Check.loaded("gauge 10 10 yarn 1;sizes s;measure a 100;chart x kkk;piece p;cast a color 0;end;piece q;cast a color 0;work a color 1 chart x;end;");
+        Check.write(fails, "gauge 10 10 yarn 1;sizes s;measure a 100;piece p;cast a color 0;end;lot 0 1;");
+        Check.due("load", fails::load, 1);
+        Check.due("no piece fails", () -> fails.setGauge(10, 10, 1), 0);
+        Check.due("a piece that was there is not knitted", fails::possible, 1);
+        Check.due("nor dealt", () -> fails.lotsUsed(0), 1);
+        fails.save(0);
+        fails.setValue(0, 0, 110);
+        Check.due("nor compared", () -> fails.differences(0), 1);
+        KnitGrader dealt = Check.loaded("gauge 10 10 yarn 99;sizes s;measure a 100;piece p;cast a color 0;end;piece q;cast a color 0;end;lot 0 2;");
+        Check.due("990 and 990 millimeters", dealt::possible, 1);
+        Check.write(dealt, "gauge 10 10 yarn 99;sizes s;measure a 100;piece p;cast a color 0;end;lot 0 1;");
+        Check.due("load", dealt::load, 1);
+        Check.due("990 millimeters alone", dealt::possible, 1);
+        Check.due("from one lot", () -> dealt.dealt(0, 0, 0), 0);
+    }
+
     private static void loadCountsPieces() {
         Check.sentence("Returns the number of pieces.");
         for (int count = 0; count <= 6; count++) {
@@ -993,6 +1045,19 @@ public final class EdgesOfTextTest {
         for (int i = 0; i < 3; i++) {
             Check.write(g, names[i]);
             Check.due("find " + names[i], () -> g.find(1), i);
+        }
+    }
+
+    /** Each letter of a name counts, by each of its bits. */
+    private static void findsByEachLetter() {
+        Check.sentence("the content of the text buffer, byte by byte (of 8 letters each one)");
+        String name = "abcdmxyz";
+        for (int at = 0; at < 8; at++) {
+            KnitGrader g = Check.loaded(HEAD + "measure " + name + " 1 2;");
+            for (char other = 'a'; other <= 'z'; other++) {
+                Check.write(g, name.substring(0, at) + other + name.substring(at + 1));
+                Check.due("find with " + other + " at " + at, () -> g.find(1), other == name.charAt(at) ? 0 : Check.MISSING);
+            }
         }
     }
 

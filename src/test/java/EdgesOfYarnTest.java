@@ -66,6 +66,10 @@ public final class EdgesOfYarnTest {
         KnitGrader chart = Check.loaded(TEN + measures + "chart x kyy kkk kkk s;piece p;cast a color 0;work l color 1 chart x;end;");
         Check.due("a chart", () -> chart.need(0, 0, 1), 18 + 18 + 18 + 6);
         Check.due("the cast", () -> chart.need(0, 0, 0), 6);
+        KnitGrader one = Check.loaded(TEN + measures + "chart x kpk;piece p;cast a color 0;work l color 1 chart x;end;");
+        Check.due("a chart of one row", () -> one.need(0, 0, 1), 18);
+        KnitGrader eight = Check.loaded(TEN + measures + "chart x k k k k k k yk t;chart y kkk;piece p;cast a color 0;work b color 1 chart x;end;");
+        Check.due("a chart of 8 rows before another one", () -> eight.need(0, 0, 1), 6 * 9);
     }
 
     private static void rowsOfTheColor() {

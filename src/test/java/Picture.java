@@ -1,6 +1,7 @@
 /**
- * All that can be seen of a grader, as one text: the error, the table, the pieces, the lots, each state that can be
- * undone to, both slots, and the text buffer. The grader is used up by it; it takes some 250 calls with a small pattern.
+ * All that can be seen of a grader but for its names, as one text: the text buffer, the error, the charts, the parts, the
+ * state with its table and lots, each state that can be undone to, and both slots. The grader is used up by it: it takes
+ * some 300 calls with a small pattern.
  */
 final class Picture {
     private final KnitGrader grader;
@@ -17,6 +18,8 @@ final class Picture {
         picture.see("position", grader::errorPosition);
         picture.see("slot 0 differs", () -> grader.differences(0));
         picture.see("slot 1 differs", () -> grader.differences(1));
+        picture.charts();
+        picture.parts();
         picture.state();
         for (int left = grader.count(8); left > 0; left--) {
             picture.see("undo", grader::undo);
@@ -41,6 +44,40 @@ final class Picture {
         if (!longer.startsWith("throws")) {
             grader.truncate(Integer.parseInt(longer) - 20);
             see("buffer", () -> grader.find(1));
+        }
+    }
+
+    /** Also that there is nothing behind the last chart and the last rows. */
+    private void charts() {
+        int charts = grader.count(2);
+        for (int chart = 0; chart <= charts; chart++) {
+            int one = chart;
+            int rows = chart < charts ? grader.chart(chart, 0) : 0;
+            see("chart", () -> grader.chart(one, 1));
+            see("makes at most", () -> grader.chart(one, 2));
+            for (int row = 0; row <= rows; row++) {
+                int ofRow = row;
+                see("takes", () -> grader.chartRow(one, ofRow, false));
+                see("makes", () -> grader.chartRow(one, ofRow, true));
+            }
+        }
+    }
+
+    /** Also that there is nothing behind the last piece and the last parts. */
+    private void parts() {
+        int pieces = grader.count(3);
+        for (int piece = 0; piece <= pieces; piece++) {
+            int one = piece;
+            int parts = piece < pieces ? grader.parts(piece) : 0;
+            for (int part = 0; part < parts; part++) {
+                for (int what = 0; what < 9; what++) {
+                    int ofPart = part;
+                    int asked = what;
+                    see("part", () -> grader.part(one, ofPart, asked));
+                }
+            }
+            see("no part", () -> grader.part(one, parts, 0));
+            see("no rows", () -> grader.rows(0, one));
         }
     }
 
