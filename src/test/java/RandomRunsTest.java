@@ -1,22 +1,14 @@
-import java.util.ArrayList;
-import java.util.List;
 import java.util.Random;
-import java.util.TreeMap;
 
 /** Many runs of calls, made from fixed seeds, on KnitGrader and on NaiveGrader: each answer must be the same. */
 public final class RandomRunsTest {
     private static final int RUNS = 900;
-    private static final int MOST_CALLS = 512;
     private static final String[] WORDS = {"gauge", "yarn", "sizes", "measure", "chart", "piece", "cast", "work", "shape",
         "end", "lot", "plus", "minus", "by", "and", "color", "over", "per", ";", "0", "1", "4", "30", "99", "3000", "3001",
         "9999", "12345", "00007", "k", "kyt", "tt", "hip", "abcdefgh", "abcdefghi", "kkkkkkkkkkkk", "kkkkkkkkkkkkk", "yyy", "A", "-"};
 
     private final Random random;
-    private final KnitGrader fast = new KnitGrader();
-    private final NaiveGrader naive = new NaiveGrader();
-    private int calls = 0;
-    private final List<String> log = new ArrayList<>();
-    private static final TreeMap<String, Integer> SEEN = new TreeMap<>();
+    private final Pair pair = new Pair();
 
     private RandomRunsTest(long seed) {
         random = new Random(seed);
@@ -27,7 +19,7 @@ public final class RandomRunsTest {
             new RandomRunsTest(run).run();
         }
         if (args.length > 0) {
-            SEEN.forEach((what, times) -> System.out.println(what + " " + times));
+            Pair.seen().forEach((what, times) -> System.out.println(what + " " + times));
         }
         Check.end("RandomRunsTest");
     }
@@ -44,25 +36,12 @@ public final class RandomRunsTest {
         return numbers[random.nextInt(numbers.length)];
     }
 
-    private void both(String call, Check.Call one, Check.Call other) {
-        calls++;
-        log.add(call);
-        String want = Check.told(other);
-        String got = Check.told(one);
-        String name = call.substring(0, call.indexOf('('));
-        SEEN.merge(name + (want.startsWith("throws") ? " " + want : " answers"), 1, Integer::sum);
-        if (!got.equals(want)) {
-            log.forEach(System.out::println);
-        }
-        Check.same(call, got, want);
-    }
-
     private void run() {
         if (chance(90)) {
             loadText(chance(80) ? text() : spoilt(text()));
         }
         // A text takes at most 80 calls, another call at most 6.
-        while (calls < MOST_CALLS - 86 && Check.wrongs() < 5) {
+        while (pair.calls() < Pair.MOST_CALLS - 86 && Check.wrongs() < 5) {
             if (chance(1)) {
                 loadText(chance(70) ? text() : spoilt(text()));
             }
@@ -71,26 +50,8 @@ public final class RandomRunsTest {
     }
 
     private void loadText(String text) {
-        String cut = text.length() > 1500 ? text.substring(0, 1500) : text;
-        log.add("text " + cut);
-        both("truncate(0)", () -> fast.truncate(0), () -> naive.truncate(0));
-        for (int at = 0; at < cut.length(); at += 20) {
-            int[] f = new int[5];
-            for (int i = 0; i < 20; i++) {
-                int sign = at + i < cut.length() ? cut.charAt(at + i) & 255 : 32;
-                f[i / 4] = f[i / 4] << 8 | sign;
-            }
-            both("append(..)", () -> fast.append(f[0], f[1], f[2], f[3], f[4]), () -> naive.append(f[0], f[1], f[2], f[3], f[4]));
-        }
-        both("truncate(..)", () -> fast.truncate(cut.length()), () -> naive.truncate(cut.length()));
-        both("load()", fast::load, naive::load);
-        errors();
-    }
-
-    private void errors() {
-        both("errorCode()", fast::errorCode, naive::errorCode);
-        both("errorPosition()", fast::errorPosition, naive::errorPosition);
-        SEEN.merge("error " + naive.errorCode(), 1, Integer::sum);
+        pair.loadText(text);
+        pair.errors();
     }
 
     private String name() {
@@ -285,24 +246,24 @@ public final class RandomRunsTest {
     }
 
     private int size() {
-        return number(naive.count(0));
+        return number(pair.naive.count(0));
     }
 
     private int measure() {
-        return number(naive.count(1));
+        return number(pair.naive.count(1));
     }
 
     private int piece() {
-        return number(naive.count(3));
+        return number(pair.naive.count(3));
     }
 
     private int part(int piece) {
-        return number(piece >= 0 && piece < naive.count(3) ? naive.parts(piece) : 10);
+        return number(piece >= 0 && piece < pair.naive.count(3) ? pair.naive.parts(piece) : 10);
     }
 
     private int row(int size, int piece) {
-        boolean there = size >= 0 && size < naive.count(0) && piece >= 0 && piece < naive.count(3);
-        int rows = there ? naive.rows(size, piece) : 5;
+        boolean there = size >= 0 && size < pair.naive.count(0) && piece >= 0 && piece < pair.naive.count(3);
+        int rows = there ? pair.naive.rows(size, piece) : 5;
         return chance(20) ? rows - 1 : number(rows);
     }
 
@@ -350,23 +311,23 @@ public final class RandomRunsTest {
         int mm = chance(5) ? among(-1, 3001, Integer.MAX_VALUE, Integer.MIN_VALUE) : among(0, 3000, pick(3000), pick(500));
         switch (pick(3)) {
             case 0:
-                both("count(" + what + ")", () -> fast.count(what), () -> naive.count(what));
+                pair.count(what);
                 break;
             case 1:
-                both("value(" + m + ", " + s + ")", () -> fast.value(m, s), () -> naive.value(m, s));
+                pair.value(m, s);
                 break;
             case 2:
-                both("isGraded(" + m + ")", () -> fast.isGraded(m), () -> naive.isGraded(m));
+                pair.isGraded(m);
                 break;
             default:
-                both("fits(" + m + ", " + mm + ")", () -> fast.fits(m, mm), () -> naive.fits(m, mm));
+                pair.fits(m, mm);
                 break;
         }
     }
 
     private void chartCall() {
-        int c = number(naive.count(2));
-        int row = number(c >= 0 && c < naive.count(2) ? naive.chart(c, 0) : 3);
+        int c = number(pair.naive.count(2));
+        int row = number(c >= 0 && c < pair.naive.count(2) ? pair.naive.chart(c, 0) : 3);
         int p = piece();
         int part = part(p);
         int what = number(9);
@@ -374,16 +335,16 @@ public final class RandomRunsTest {
         boolean makes = chance(50);
         switch (pick(3)) {
             case 0:
-                both("chart(" + c + ", " + three + ")", () -> fast.chart(c, three), () -> naive.chart(c, three));
+                pair.chart(c, three);
                 break;
             case 1:
-                both("chartRow(" + c + ", " + row + ", " + makes + ")", () -> fast.chartRow(c, row, makes), () -> naive.chartRow(c, row, makes));
+                pair.chartRow(c, row, makes);
                 break;
             case 2:
-                both("part(" + p + ", " + part + ", " + what + ")", () -> fast.part(p, part, what), () -> naive.part(p, part, what));
+                pair.part(p, part, what);
                 break;
             default:
-                both("parts(" + p + ")", () -> fast.parts(p), () -> naive.parts(p));
+                pair.parts(p);
                 break;
         }
     }
@@ -393,22 +354,21 @@ public final class RandomRunsTest {
         int p = piece();
         int part = part(p);
         boolean greatest = chance(50);
-        String at = s + ", " + p;
         switch (pick(5)) {
             case 0:
-                both("failure(" + at + ")", () -> fast.failure(s, p), () -> naive.failure(s, p));
+                pair.failure(s, p);
                 break;
             case 1:
-                both("rows(" + at + ")", () -> fast.rows(s, p), () -> naive.rows(s, p));
+                pair.rows(s, p);
                 break;
             case 2:
-                both("partRows(" + at + ", " + part + ")", () -> fast.partRows(s, p, part), () -> naive.partRows(s, p, part));
+                pair.partRows(s, p, part);
                 break;
             case 3:
-                both("extreme(" + at + ", " + greatest + ")", () -> fast.extreme(s, p, greatest), () -> naive.extreme(s, p, greatest));
+                pair.extreme(s, p, greatest);
                 break;
             case 4:
-                both("mean(" + at + ")", () -> fast.mean(s, p), () -> naive.mean(s, p));
+                pair.mean(s, p);
                 break;
             default:
                 shapingCall(s, p, chance(80) ? shape(p, part) : part);
@@ -418,10 +378,10 @@ public final class RandomRunsTest {
 
     /** A shape of the piece, if it has one; else the part itself. */
     private int shape(int piece, int part) {
-        int parts = piece >= 0 && piece < naive.count(3) ? naive.parts(piece) : 0;
+        int parts = piece >= 0 && piece < pair.naive.count(3) ? pair.naive.parts(piece) : 0;
         int first = pick(9);
         for (int i = 0; i < parts; i++) {
-            if (naive.part(piece, (first + i) % parts, 0) == 2) {
+            if (pair.naive.part(piece, (first + i) % parts, 0) == 2) {
                 return (first + i) % parts;
             }
         }
@@ -430,24 +390,22 @@ public final class RandomRunsTest {
 
     private void shapingCall(int s, int p, int part) {
         int index = among(0, 0, 1, 2, 3, pick(30), -1);
-        String at = s + ", " + p + ", " + part + ", " + index;
-        both("shaping(" + at + ")", () -> fast.shaping(s, p, part, index), () -> naive.shaping(s, p, part, index));
+        pair.shaping(s, p, part, index);
     }
 
     private void rowCall() {
         int s = size();
         int p = piece();
         int row = row(s, p);
-        String at = s + ", " + p + ", " + row;
         switch (pick(2)) {
             case 0:
-                both("stitches(" + at + ")", () -> fast.stitches(s, p, row), () -> naive.stitches(s, p, row));
+                pair.stitches(s, p, row);
                 break;
             case 1:
-                both("partAt(" + at + ")", () -> fast.partAt(s, p, row), () -> naive.partAt(s, p, row));
+                pair.partAt(s, p, row);
                 break;
             default:
-                both("width(" + at + ")", () -> fast.width(s, p, row), () -> naive.width(s, p, row));
+                pair.width(s, p, row);
                 break;
         }
     }
@@ -456,23 +414,23 @@ public final class RandomRunsTest {
         int s = size();
         int p = piece();
         int color = number(4);
-        int lot = number(naive.count(4));
+        int lot = number(pair.naive.count(4));
         int two = number(2);
         switch (pick(4)) {
             case 0:
-                both("need(" + s + ", " + p + ", " + color + ")", () -> fast.need(s, p, color), () -> naive.need(s, p, color));
+                pair.need(s, p, color);
                 break;
             case 1:
-                both("lot(" + lot + ", " + two + ")", () -> fast.lot(lot, two), () -> naive.lot(lot, two));
+                pair.lot(lot, two);
                 break;
             case 2:
-                both("dealt(" + s + ", " + p + ", " + color + ")", () -> fast.dealt(s, p, color), () -> naive.dealt(s, p, color));
+                pair.dealt(s, p, color);
                 break;
             case 3:
-                both("lotsUsed(" + s + ")", () -> fast.lotsUsed(s), () -> naive.lotsUsed(s));
+                pair.lotsUsed(s);
                 break;
             default:
-                both("possible()", fast::possible, naive::possible);
+                pair.possible();
                 break;
         }
     }
@@ -490,16 +448,16 @@ public final class RandomRunsTest {
         int step = among(0, 10, 100, -10, 1000, pick(3000), -pick(3000), Integer.MAX_VALUE, Integer.MIN_VALUE);
         switch (pick(3)) {
             case 0:
-                both("setGauge(" + stitches + ", " + rows + ", " + yarn + ")", () -> fast.setGauge(stitches, rows, yarn), () -> naive.setGauge(stitches, rows, yarn));
+                pair.setGauge(stitches, rows, yarn);
                 break;
             case 1:
-                both("setValue(" + m + ", " + s + ", " + value + ")", () -> fast.setValue(m, s, value), () -> naive.setValue(m, s, value));
+                pair.setValue(m, s, value);
                 break;
             case 2:
-                both("grade(" + m + ", " + value + ", " + step + ")", () -> fast.grade(m, value, step), () -> naive.grade(m, value, step));
+                pair.grade(m, value, step);
                 break;
             default:
-                both("setEase(" + p + ", " + part + ", " + ease + ")", () -> fast.setEase(p, part, ease), () -> naive.setEase(p, part, ease));
+                pair.setEase(p, part, ease);
                 break;
         }
     }
@@ -507,11 +465,11 @@ public final class RandomRunsTest {
     private void lotChange() {
         int color = chance(3) ? number(4) : color();
         int meters = chance(5) ? among(0, 10000, -1) : meters();
-        int lot = number(naive.count(4));
+        int lot = number(pair.naive.count(4));
         if (chance(75)) {
-            both("addLot(" + color + ", " + meters + ")", () -> fast.addLot(color, meters), () -> naive.addLot(color, meters));
+            pair.addLot(color, meters);
         } else {
-            both("removeLot(" + lot + ")", () -> fast.removeLot(lot), () -> naive.removeLot(lot));
+            pair.removeLot(lot);
         }
     }
 
@@ -520,23 +478,23 @@ public final class RandomRunsTest {
         switch (pick(6)) {
             case 0:
             case 1:
-                both("undo()", fast::undo, naive::undo);
+                pair.undo();
                 break;
             case 2:
-                both("save(" + slot + ")", Check.done(() -> fast.save(slot)), Check.done(() -> naive.save(slot)));
+                pair.save(slot);
                 break;
             case 3:
-                both("restore(" + slot + ")", Check.done(() -> fast.restore(slot)), Check.done(() -> naive.restore(slot)));
+                pair.restore(slot);
                 break;
             default:
-                both("differences(" + slot + ")", () -> fast.differences(slot), () -> naive.differences(slot));
+                pair.differences(slot);
                 break;
         }
     }
 
     private void textCall() {
         if (chance(10)) {
-            errors();
+            pair.errors();
             return;
         }
         String found = chance(60) ? String.valueOf((char) among('s', 'm', 'c', 'p')) + (char) ('a' + pick(3)) : name();
@@ -544,14 +502,14 @@ public final class RandomRunsTest {
         int first = (found.charAt(0) << 24) | (found.length() > 1 ? found.charAt(1) << 16 : 0);
         int what = chance(20) ? number(4) : Math.max(0, "smcp".indexOf(found.charAt(0)));
         if (chance(30)) {
-            both("append(" + first + ", ..)", () -> fast.append(first, 1, 2, 3, 4), () -> naive.append(first, 1, 2, 3, 4));
+            pair.append(first, 1, 2, 3, 4);
         }
-        both("truncate(0)", () -> fast.truncate(0), () -> naive.truncate(0));
-        both("append(" + first + ", ..)", () -> fast.append(first, -1, 2, 3, 4), () -> naive.append(first, -1, 2, 3, 4));
-        both("truncate(" + length + ")", () -> fast.truncate(length), () -> naive.truncate(length));
-        both("find(" + what + ")", () -> fast.find(what), () -> naive.find(what));
+        pair.truncate(0);
+        pair.append(first, -1, 2, 3, 4);
+        pair.truncate(length);
+        pair.find(what);
         if (chance(20)) {
-            both("load()", fast::load, naive::load);
+            pair.load();
         }
     }
 }
